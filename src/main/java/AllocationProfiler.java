@@ -551,7 +551,7 @@ public final class AllocationProfiler {
 
         private void follow(Code code, int i, int depth) {
             int operation = code.operationAt(i);
-            if (!mayRun(operation, depth)) {
+            if (depth > MOST_ON_STACK || depth < TAKES[operation]) {
                 return;
             }
             int after = depth - TAKES[operation] + PUTS[operation];
@@ -570,14 +570,9 @@ public final class AllocationProfiler {
         }
 
         private static boolean isReachedWrongly(int operation, int depths) {
-            if (depths == 0) {
-                return false;
-            }
-            return Integer.bitCount(depths) > 1 || !mayRun(operation, Integer.numberOfTrailingZeros(depths));
-        }
-
-        private static boolean mayRun(int operation, int depth) {
-            return depth <= MOST_ON_STACK && depth >= TAKES[operation];
+            boolean tooFew = (depths & ((1 << TAKES[operation]) - 1)) != 0;
+            boolean tooMany = (depths >> (MOST_ON_STACK + 1)) != 0;
+            return tooFew || tooMany || Integer.bitCount(depths) > 1;
         }
     }
 
