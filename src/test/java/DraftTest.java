@@ -186,6 +186,18 @@ public final class DraftTest {
         // 8 is reached with 1 and 2 and goes on with both, so that 2 is the lowest such place.
         malformed(2, Check.PUSH, 0, Check.GOTO, 4, Check.PUSH, 7, Check.RETURN, 0, Check.PUSH, 0,
                 Check.IFZERO, 8, Check.PUSH, 0, Check.GOTO, 8, Check.GOTO, 2);
+        longLoop();
+    }
+
+    /** A loop with one number more each time: only behind its second time 1 is reached with a second number. */
+    private static void longLoop() {
+        AllocationProfiler x = new AllocationProfiler();
+        Check.draft(x, Check.GOTO, 3, Check.PUSH, 0, Check.RETURN, 0, Check.GOTO, 4);
+        for (int i = 0; i < 8; i++) {
+            Check.draft(x, Check.PUSH, 0, Check.POP, 0);
+        }
+        Check.draft(x, Check.PUSH, 0, Check.DUP, 0, Check.IFZERO, 1, Check.GOTO, 3);
+        check.same("fault of a long loop", Check.faultOf(x), 1);
     }
 
     private static void malformed(int due, int... code) {
@@ -224,6 +236,8 @@ public final class DraftTest {
 
     private static void orderOfPlaces() {
         AllocationProfiler x = new AllocationProfiler();
+        Check.draft(x, Check.STORE, 4, Check.LOAD, 9, Check.POP, 0);
+        check.same("the first argument", Check.faultOf(x), 0);
         Check.draft(x, Check.ADD, 0, Check.LOAD, 9, Check.POP, 0);
         x.range(5, 1, 9);
         check.same("arguments first", Check.faultOf(x), 1);

@@ -84,6 +84,7 @@ public final class LedgerTest {
         AllocationProfiler x = twoSites(96);
         make(x, 0, 0, 88);
         check.same("8 are left", x.count(0, -1, 2), 0);
+        check.fails("no entry without a sample", Check.BOUNDS, () -> x.entry(0, 2));
         make(x, 1, 0, 88);
         check.same("each thread has its own countdown", x.count(0, -1, 2), 0);
         make(x, 0, 1, 16);

@@ -9,6 +9,7 @@ public final class ThreadsTest {
         locals();
         calls();
         exceptions();
+        emptiedStacks();
         arrays();
         limitOfObjects();
         turns();
@@ -70,6 +71,9 @@ public final class ThreadsTest {
         check.same("sign", returned(0, sign), 0);
         check.same("sign", returned(-1, sign), -1);
         check.same("sign", returned(Integer.MIN_VALUE, sign), -1);
+        int[] below = {Check.LOAD, 0, Check.IFNEG, 4, Check.PUSH, 1, Check.RETURN, 0, Check.PUSH, 2, Check.RETURN, 0};
+        check.same("IFNEG of 0", returned(0, below), 1);
+        check.same("IFNEG of -1", returned(-1, below), 2);
         int[] sum = {Check.LOAD, 0, Check.IFZERO, 11, Check.LOAD, 1, Check.LOAD, 0, Check.ADD, 0, Check.STORE, 1,
             Check.LOAD, 0, Check.PUSH, 1, Check.SUB, 0, Check.STORE, 0, Check.GOTO, 0, Check.LOAD, 1, Check.RETURN, 0};
         check.same("1 + .. + 10", returned(10, sum), 55);
@@ -129,11 +133,33 @@ public final class ThreadsTest {
         Check.draft(x, Check.PUSH, 5, Check.LOAD, 0, Check.THROW, 0, Check.PUSH, 10, Check.MUL, 0, Check.RETURN, 0);
         x.range(0, 3, 3);
         x.define();
+        // Only the second range has the CALL.
+        Check.draft(x, Check.LOAD, 0, Check.CALL, 0, Check.RETURN, 0, Check.DUP, 0, Check.ADD, 0, Check.RETURN, 0);
+        x.range(0, 1, 2);
+        x.range(1, 2, 3);
+        x.define();
         x.weave(50);
         outcome(x, 0, 7, 3, 7, 2);
         outcome(x, 1, 30, 2, 31, 8);
         outcome(x, 2, 30, 3, 30, 4);
         outcome(x, 3, 4, 2, 40, 6);
+        outcome(x, 4, 21, 2, 42, 7);
+    }
+
+    /** Five numbers fit again at the begin of a method, and four beside an exception. */
+    private static void emptiedStacks() {
+        AllocationProfiler x = new AllocationProfiler();
+        Check.define(x, Check.PUSH, 1, Check.PUSH, 2, Check.PUSH, 3, Check.PUSH, 4, Check.PUSH, 5, Check.RETURN, 0);
+        Check.draft(x, Check.PUSH, 1, Check.DUP, 0, Check.DUP, 0, Check.DUP, 0, Check.PUSH, 1000, Check.THROW, 0,
+                Check.PUSH, 10, Check.PUSH, 20, Check.PUSH, 30, Check.PUSH, 40, Check.ADD, 0, Check.ADD, 0,
+                Check.ADD, 0, Check.ADD, 0, Check.RETURN, 0);
+        x.range(5, 6, 6);
+        x.define();
+        x.weave(50);
+        for (int time = 0; time < 2; time++) {
+            outcome(x, 0, 0, 2, 5, 6);
+            outcome(x, 1, 0, 2, 1100, 15);
+        }
     }
 
     private static void outcome(AllocationProfiler p, int method, int x, int state, int result, int steps) {
@@ -226,6 +252,17 @@ public final class ThreadsTest {
         check.same("first", x.object(1), 32);
         check.same("second", x.object(2), 16);
         check.same("third", x.object(3), 24);
+        AllocationProfiler z = new AllocationProfiler();
+        Check.define(z, Check.PUSH, 0, Check.RETURN, 0);
+        z.weave(50);
+        for (int thread = 2; thread >= 0; thread--) {
+            z.start(thread, 0, 0);
+        }
+        for (int thread = 0; thread < 3; thread++) {
+            z.run(thread == 0 ? 4 : 1);
+            check.same("0 has the first turn", z.state(thread), 2);
+            check.same("the next is not before", thread == 2 ? 1 : z.state(thread + 1), 1);
+        }
         AllocationProfiler y = new AllocationProfiler();
         Check.define(y, Check.PUSH, 0, Check.RETURN, 0);
         y.weave(50);

@@ -129,9 +129,13 @@ public final class WeaveTest {
         check.same("the last", x.site(5, 13), 77);
         check.same("its report", x.code(5, 26, 1), 77);
         x.start(2, 5, 0);
-        x.run(200);
+        x.start(1, 5, 0);
+        check.same("steps", x.run(200), 30);
         check.same("its objects", x.count(77, 2, 0), 1);
         check.same("none elsewhere", x.count(64, -1, 0), 0);
+        check.same("it has a rate", x.rate(77) >= 0 ? 1 : 0, 1);
+        check.same("and a share", x.share(77) > 0 ? 1 : 0, 1);
+        check.same("and an estimate", x.estimate(77) >= 0 ? 1 : 0, 1);
         check.fails("site 78", Check.ARGUMENT, () -> x.count(78, -1, 0));
     }
 
