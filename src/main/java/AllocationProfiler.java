@@ -594,7 +594,7 @@ public final class AllocationProfiler {
         /** Weaves with sites from firstSite on: the number that the next site gets. */
         int weaveFrom(int firstSite) {
             findPlaces();
-            if (excluded || places[original.instructions] > MOST_WOVEN) {
+            if (excluded || placeOf(original.instructions) > MOST_WOVEN) {
                 return firstSite;
             }
             woven.clear();
@@ -602,7 +602,7 @@ public final class AllocationProfiler {
             for (int i = 0; i < original.instructions; i++) {
                 int operation = original.operations[i];
                 int argument = original.arguments[i];
-                woven.append(operation, branches(operation) ? places[argument] : argument);
+                woven.append(operation, branches(operation) ? placeOf(argument) : argument);
                 if (makesObject(operation)) {
                     woven.append(REPORT, nextSite);
                     sites[i] = nextSite;
@@ -610,8 +610,8 @@ public final class AllocationProfiler {
                 }
             }
             for (int r = 0; r < original.ranges; r++) {
-                woven.appendRange(places[original.begins[r]], places[original.ends[r]],
-                        places[original.handlers[r]]);
+                woven.appendRange(placeOf(original.begins[r]), placeOf(original.ends[r]),
+                        placeOf(original.handlers[r]));
             }
             return nextSite;
         }
@@ -623,6 +623,10 @@ public final class AllocationProfiler {
                 place += makesObject(original.operations[i]) ? 2 : 1;
             }
             places[original.instructions] = place;
+        }
+
+        private int placeOf(int i) {
+            return i >= 0 && i < places.length ? places[i] : 0;
         }
     }
 
