@@ -12,26 +12,46 @@ final class Check {
     static final Class<NoSuchElementException> ELEMENT = NoSuchElementException.class;
 
     private final List<String> wrong = new ArrayList<>();
+    private String subject = "";
     private int looked = 0;
+
+    /** A test of its own: what it finds is told with its subject, and it may neither throw nor look at nothing. */
+    void about(String itsSubject, Runnable test) {
+        subject = itsSubject + ": ";
+        int before = looked;
+        try {
+            test.run();
+            if (looked == before) {
+                tell("looked at nothing");
+            }
+        } catch (RuntimeException e) {
+            tell("broke off with " + e);
+        }
+        subject = "";
+    }
+
+    private void tell(String what) {
+        wrong.add(subject + what);
+    }
 
     void same(String what, long got, long due) {
         looked++;
         if (got != due) {
-            wrong.add(what + " answered " + got + ", due is " + due);
+            tell(what + " answered " + got + ", due is " + due);
         }
     }
 
     void same(String what, double got, double due) {
         looked++;
         if (Double.compare(got, due) != 0) {
-            wrong.add(what + " answered " + got + ", due is " + due);
+            tell(what + " answered " + got + ", due is " + due);
         }
     }
 
     void same(String what, String got, String due) {
         looked++;
         if (!got.equals(due)) {
-            wrong.add(what + " answered " + got + ", due is " + due);
+            tell(what + " answered " + got + ", due is " + due);
         }
     }
 
@@ -39,10 +59,10 @@ final class Check {
         looked++;
         try {
             call.run();
-            wrong.add(what + " threw nothing, due is " + due.getSimpleName());
+            tell(what + " threw nothing, due is " + due.getSimpleName());
         } catch (RuntimeException e) {
             if (e.getClass() != due) {
-                wrong.add(what + " threw " + e + ", due is " + due.getSimpleName());
+                tell(what + " threw " + e + ", due is " + due.getSimpleName());
             }
         }
     }

@@ -193,7 +193,7 @@ public final class LedgerTest {
         check.same("behind 31", x.rate(0), 254.0);
         float due = 254f;
         x.run(1);
-        for (int k = 2; k < 400; k++) {
+        for (int k = 2; k < 240; k++) {
             due = due * 0.75f + 0f * 0.25f;
             check.same("it fades, the " + k, x.rate(0), due);
             x.run(16);
