@@ -7,6 +7,8 @@ public final class MachineEdgesTest extends Edges {
         edge(14, "go to a when x is 0", MachineEdgesTest::zero);
         edge(14, "go to a when x is below 0", MachineEdgesTest::belowZero);
         edge(14, "5 numbers on the stack", MachineEdgesTest::fullStack);
+        edge(14, "each takes what it takes: what is below stays", MachineEdgesTest::whatIsBelow);
+        edge(14, "a method begins with an empty stack", MachineEdgesTest::emptyStack);
         edge(14, "runs method a with x in local 0, the others 0", MachineEdgesTest::localsOfCalls);
         edge(14, "puts what it returns", MachineEdgesTest::returnedToCall);
         edge(14, "in a range: begin to before end", MachineEdgesTest::beginToBeforeEnd);
@@ -117,6 +119,39 @@ public final class MachineEdgesTest extends Edges {
         p.weave(50);
         check.same("five methods", outcome(p, 4, 0, 2), 21);
         check.same("once more", outcome(p, 4, 0, 2), 21);
+    }
+
+    /** With 100 and 10 below, which are subtracted then. */
+    private static void whatIsBelow() {
+        check.same("POP", returned(0, PUSH, 100, PUSH, 10, PUSH, 3, POP, 0, SUB, 0, RETURN, 0), 90);
+        check.same("POP of five", returned(0, PUSH, 1, PUSH, 2, PUSH, 3, PUSH, 100, PUSH, 10, POP, 0, SUB, 0, ADD, 0,
+                ADD, 0, RETURN, 0), 1 + 2 + 3 - 100);
+        check.same("POP of one", returned(0, PUSH, 100, POP, 0, PUSH, 7, RETURN, 0), 7);
+        check.same("DUP", returned(0, PUSH, 100, PUSH, 10, DUP, 0, SUB, 0, SUB, 0, RETURN, 0), 100);
+        check.same("STORE", returned(0, PUSH, 100, PUSH, 10, PUSH, 3, STORE, 0, SUB, 0, RETURN, 0), 90);
+        for (int x = -1; x <= 1; x++) {
+            check.same("IFZERO", returned(x, PUSH, 100, PUSH, 10, LOAD, 0, IFZERO, 4, SUB, 0, RETURN, 0), 90);
+            check.same("IFNEG", returned(x, PUSH, 100, PUSH, 10, LOAD, 0, IFNEG, 4, SUB, 0, RETURN, 0), 90);
+        }
+        check.same("GOTO", returned(0, PUSH, 100, PUSH, 10, GOTO, 3, SUB, 0, RETURN, 0), 90);
+        check.same("NEW", returned(0, PUSH, 100, PUSH, 10, NEW, 0, SUB, 0, SUB, 0, RETURN, 0), 91);
+        check.same("ARRAY", returned(0, PUSH, 100, PUSH, 10, PUSH, 3, ARRAY, 1, SUB, 0, SUB, 0, RETURN, 0), 91);
+    }
+
+    /** Each method leaves four numbers behind when it ends, and then has room for five again. */
+    private static void emptyStack() {
+        AllocationProfiler p = fresh();
+        define(p, PUSH, 1, PUSH, 2, PUSH, 3, PUSH, 4, LOAD, 0, RETURN, 0);
+        define(p, PUSH, 1, PUSH, 2, PUSH, 3, PUSH, 4, LOAD, 0, THROW, 0);
+        draft(p, LOAD, 0, CALL, 0, CALL, 0, CALL, 1, RETURN, 0, CALL, 0, RETURN, 0);
+        p.range(3, 4, 5);
+        p.define();
+        p.weave(50);
+        for (int x = 50; x < 53; x++) {
+            check.same("RETURN", outcome(p, 0, x, 2), x);
+            check.same("THROW", outcome(p, 1, x, 3), x);
+            check.same("CALLs", outcome(p, 2, x, 2), x);
+        }
     }
 
     private static void localsOfCalls() {

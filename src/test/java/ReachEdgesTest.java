@@ -183,6 +183,9 @@ public final class ReachEdgesTest extends Edges {
         // 10 is reached with 6 and goes to 7, 8 is and goes to 5: these are lower, but not reached by that.
         faultIs(10, GOTO, 2, RETURN, 0, PUSH, 0, DUP, 0, DUP, 0, DUP, 0, GOTO, 8, POP, 0, DUP, 0, DUP, 0, GOTO, 7);
         faultIs(8, PUSH, 1, DUP, 0, DUP, 0, DUP, 0, GOTO, 6, ADD, 0, DUP, 0, DUP, 0, GOTO, 5);
+        // 9 is reached with 6, and would lead by 10 to 1.
+        faultIs(9, GOTO, 3, ADD, 0, RETURN, 0, PUSH, 1, PUSH, 1, PUSH, 1, PUSH, 1, PUSH, 1, PUSH, 1, POP, 0, GOTO, 1);
+        faultIs(9, GOTO, 3, ADD, 0, RETURN, 0, PUSH, 1, PUSH, 1, PUSH, 1, PUSH, 1, PUSH, 1, PUSH, 1, IFZERO, 1, GOTO, 1);
     }
 
     private static void nothingBehindTooFew() {
@@ -199,6 +202,25 @@ public final class ReachEdgesTest extends Edges {
         faultIs(2, PUSH, 0, GOTO, 4, PUSH, 7, RETURN, 0, PUSH, 0, IFZERO, 8, PUSH, 0, GOTO, 8, GOTO, 2);
         // 5 is reached with 1 and with 2, and POPs both; 1 takes one and lacks it once.
         faultIs(1, GOTO, 2, RETURN, 0, PUSH, 1, PUSH, 0, IFZERO, 6, PUSH, 2, POP, 0, GOTO, 1);
+        longLoop();
+    }
+
+    /** One number more each time round a loop of 20: only the second time 1 is reached with another number. */
+    private static void longLoop() {
+        AllocationProfiler x = fresh();
+        draft(x, GOTO, 3, PUSH, 0, RETURN, 0, GOTO, 4);
+        for (int i = 0; i < 8; i++) {
+            draft(x, PUSH, 0, POP, 0);
+        }
+        draft(x, PUSH, 0, DUP, 0, IFZERO, 1, GOTO, 3);
+        check.same("fault of a long loop", faultOf(x), 1);
+        // Another one, of 24 instructions.
+        draft(x, GOTO, 3, PUSH, 0, RETURN, 0, GOTO, 4);
+        for (int i = 0; i < 7; i++) {
+            draft(x, PUSH, 0, POP, 0);
+        }
+        draft(x, PUSH, 0, PUSH, 0, IFZERO, 22, GOTO, 3, POP, 0, GOTO, 1);
+        check.same("fault of a longer loop", faultOf(x), 1);
     }
 
     private static void handlerWithOne() {

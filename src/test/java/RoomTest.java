@@ -30,7 +30,8 @@ public final class RoomTest {
         Check.define(x, Check.NEW, 0, Check.ARRAY, 8, Check.PUSH, 1, Check.CALL, 0, Check.ADD, 0, Check.POP, 0,
                 Check.GOTO, 0);
         x.weave(50);
-        for (int call = 5; call < 512; call += 4) {
+        // 10 calls were made; each time round there are at most 7 more.
+        for (int call = 10; call + 7 <= 512; call += 7) {
             for (int t = 0; t < 3; t++) {
                 if (x.state(t) != 1) {
                     x.start(t, 0, 0);

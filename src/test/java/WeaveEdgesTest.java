@@ -14,6 +14,7 @@ public final class WeaveEdgesTest extends Edges {
         edge(9, "behind each NEW and ARRAY, REPORT s (operation 16)", WeaveEdgesTest::reports);
         edge(9, "in the order of methods and instructions", WeaveEdgesTest::orderOfSites);
         edge(9, "What goes to an instruction goes to the same one", WeaveEdgesTest::targets);
+        edge(9, "the same one: right behind a REPORT", WeaveEdgesTest::targetBehindReport);
         edge(9, "begins, ends and handlers, too", WeaveEdgesTest::rangesMove);
         edge(9, "an end that stands at an instruction behind a REPORT stands behind that", WeaveEdgesTest::endMoves);
         edge(9, "an end behind the last instruction", WeaveEdgesTest::lastEnd);
@@ -212,12 +213,27 @@ public final class WeaveEdgesTest extends Edges {
 
     private static void targets() {
         AllocationProfiler x = withType();
-        // To the first, to NEW itself, behind NEW, to ARRAY, to the last.
+        // To the first, to NEW itself, to what is before one and behind one, to the last.
         define(x, NEW, 0, IFZERO, 0, NEW, 0, IFNEG, 2, NEW, 0, GOTO, 6, IFZERO, 8, GOTO, 2, PUSH, 0, ARRAY, 1,
                 IFZERO, 11, GOTO, 4);
         x.weave(50);
         codeIs(x, 0, NEW, 0, REPORT, 0, IFZERO, 0, NEW, 0, REPORT, 1, IFNEG, 3, NEW, 0, REPORT, 2, GOTO, 9,
                 IFZERO, 11, GOTO, 3, PUSH, 0, ARRAY, 1, REPORT, 3, IFZERO, 15, GOTO, 6);
+    }
+
+    /** From 3 to 5, right behind the NEW: past its REPORT, which is not done then. */
+    private static void targetBehindReport() {
+        AllocationProfiler x = withType();
+        define(x, LOAD, 0, IFZERO, 4, PUSH, 5, GOTO, 5, NEW, 0, RETURN, 0);
+        x.weave(50);
+        codeIs(x, 0, LOAD, 0, IFZERO, 4, PUSH, 5, GOTO, 6, NEW, 0, REPORT, 0, RETURN, 0);
+        x.start(0, 0, 1);
+        check.same("steps past it", x.run(200), 5);
+        check.same("result", x.result(0), 5);
+        check.same("no report", x.count(0, -1, 0), 0);
+        x.start(0, 0, 0);
+        check.same("steps through it", x.run(200), 4);
+        check.same("a report", x.count(0, -1, 0), 1);
     }
 
     private static void rangesMove() {
