@@ -136,6 +136,19 @@ public final class ReachEdgesTest extends Edges {
         faultIs(-1, PUSH, 0, POP, 0, GOTO, 0);
         faultIs(-1, PUSH, 0, IFZERO, 2, GOTO, 2);
         faultIs(-1, PUSH, 1, DUP, 0, DUP, 0, DUP, 0, DUP, 0, IFZERO, 4, GOTO, 4);
+        manyWaysBack();
+    }
+
+    /** Ten ways back to 0, all with 0: they must not hide that 22 lacks a number. */
+    private static void manyWaysBack() {
+        for (int last : new int[] {GOTO, POP}) {
+            AllocationProfiler x = fresh();
+            for (int i = 0; i < 11; i++) {
+                draft(x, PUSH, 0, i % 2 == 0 ? IFZERO : IFNEG, 0);
+            }
+            draft(x, last, 0, GOTO, 0);
+            check.same("fault at the end of many ways back", faultOf(x), last == POP ? 22 : -1);
+        }
     }
 
     private static void firstInstruction() {

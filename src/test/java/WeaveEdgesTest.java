@@ -167,7 +167,10 @@ public final class WeaveEdgesTest extends Edges {
         check.same("steps", x.run(200), 15);
         check.same("objects of the last", x.count(77, 0, 0), 1);
         check.same("bytes of the last", x.count(77, -1, 1), 32);
-        check.same("its share is not 0", x.share(77) > 0 ? 1 : 0, 1);
+        // 56 bytes, eight times 24 and four times 32: 376, with seven samples.
+        check.same("share of the last", x.share(77), 32f / 376f);
+        check.same("estimate of the last", x.estimate(77), 1.0 * 376.0 / 7.0);
+        check.same("rounded of the last", x.rounded(77), 54);
         x.start(1, 5, 0);
         x.run(1);
         check.same("rate of the 66th", x.rate(65), 56 * 0.25);
